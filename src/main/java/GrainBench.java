@@ -76,7 +76,7 @@ public final class GrainBench {
         shelved = new Layout(MOST_SHELVED);
         log = new Log();
         optic = new Optic();
-        planner = new Planner(shelved, optic);
+        planner = new Planner(shelved);
         firstBeam = new Beam(ALL_SEATS);
         secondBeam = new Beam(ALL_SEATS);
         share = new Share();
@@ -439,6 +439,7 @@ public final class GrainBench {
         for (int i = 0; i < layout.size; i++) {
             Part part = layout.parts[i];
             if (part.act != ACT_COUNT) {
+                optic.aim(part);
                 now.send(part, optic, next);
                 Beam passed = now;
                 now = next;
@@ -1021,9 +1022,8 @@ public final class GrainBench {
             }
         }
 
-        /** Writes into out what this beam is behind the part. */
+        /** Writes into out what this beam is behind the part, at which the optic has been aimed. */
         private void send(Part part, Optic optic, Beam out) {
-            optic.aim(part);
             out.wipe();
             for (int i = 0; i < size; i++) {
                 int key = keys[i];
@@ -1365,57 +1365,72 @@ public final class GrainBench {
 
     /** Tries all short rows of the shelf's parts and keeps the best of the latest search. */
     private static final class Planner {
+        /** Far above the steps that all rows of three out of eight parts need. */
+        private static final int MOST_STEPS = 10000;
+
         private final Layout shelved;
-        private final Optic optic;
+        private final Optic[] optics = new Optic[MOST_SHELVED];
+        /** What stands behind the first parts of the row that is tried, by how many they are. */
         private final Beam[] beams = new Beam[MOST_PLANNED + 1];
-        private final int[] row = new int[MOST_PLANNED];
+        private final int[] depths = new int[MOST_PLANNED + 1];
+        /** The row that is tried, and the part that comes next behind so many of it. */
+        private final int[] row = new int[MOST_PLANNED + 1];
+        private final int[] following = new int[MOST_PLANNED + 1];
         private final int[] bestRow = new int[MOST_PLANNED];
         private int bestSize = NONE;
         private final Share best = new Share();
         private final Share trial = new Share();
-        private int most;
-        private int grains;
-        private int wanted;
-        private int startOrders;
 
-        private Planner(Layout shelved, Optic optic) {
+        private Planner(Layout shelved) {
             this.shelved = shelved;
-            this.optic = optic;
+            for (int i = 0; i < MOST_SHELVED; i++) {
+                optics[i] = new Optic();
+            }
             for (int i = 0; i <= MOST_PLANNED; i++) {
                 beams[i] = new Beam(OPEN_SEATS);
             }
         }
 
-        private void search(int mostParts, int start, int grainCount, int wantedRow) {
-            most = Math.min(mostParts, MOST_PLANNED);
-            grains = grainCount;
-            wanted = wantedRow;
-            startOrders = Beam.orders(start);
+        private void search(int most, int start, int grains, int wanted) {
+            int orders = Beam.orders(start);
+            for (int i = 0; i < shelved.size; i++) {
+                optics[i].aim(shelved.parts[i]);
+            }
             bestSize = NONE;
             beams[0].begin(start);
-            weigh(0, 1);
-            explore(0, 1);
-        }
-
-        /** Tries each part behind the row of this length; rows of one length come in their order. */
-        private void explore(int length, int depth) {
-            if (length >= most) {
-                return;
-            }
-            for (int i = 0; i < shelved.size; i++) {
-                Part part = shelved.parts[i];
-                int deeper = Layout.deepen(depth, part.base(), grains);
-                if (deeper <= DEEPEST) {
-                    row[length] = i;
-                    beams[length].send(part, optic, beams[length + 1]);
-                    weigh(length + 1, deeper);
-                    explore(length + 1, deeper);
+            depths[0] = 1;
+            following[0] = 0;
+            weigh(0, wanted, orders);
+            int length = 0;
+            for (int step = 0; step < MOST_STEPS && length >= 0; step++) {
+                if (length >= most || length >= MOST_PLANNED || following[length] >= shelved.size) {
+                    length--;
+                } else if (lengthen(length, grains)) {
+                    length++;
+                    weigh(length, wanted, orders);
                 }
             }
         }
 
-        private void weigh(int length, int depth) {
-            long under = (long) depth * depth * startOrders;
+        /** Puts the part that follows behind the row of this length, unless that is too deep. */
+        private boolean lengthen(int length, int grains) {
+            int next = following[length];
+            following[length]++;
+            Part part = shelved.parts[next];
+            int deeper = Layout.deepen(depths[length], part.base(), grains);
+            if (deeper > DEEPEST) {
+                return false;
+            }
+            row[length] = next;
+            beams[length].send(part, optics[next], beams[length + 1]);
+            depths[length + 1] = deeper;
+            following[length + 1] = 0;
+            return true;
+        }
+
+        /** Keeps the row if it is better; rows of one length come in their order, so the first stays. */
+        private void weigh(int length, int wanted, int orders) {
+            long under = (long) depths[length] * depths[length] * orders;
             beams[length].shareOfRow(wanted, under, trial);
             int compared = bestSize == NONE ? 1 : trial.compareShare(best);
             if (compared > 0 || (compared == 0 && length < bestSize)) {
