@@ -182,7 +182,7 @@ public final class GrainBench {
         if (what < 0 || what > 2) {
             return NONE;
         }
-        long counts = packCounts(p0, p1, p2, p3, p4);
+        int counts = packCounts(p0, p1, p2, p3, p4);
         if (counts < 0 || !isTold(bench)) {
             return what == 2 ? -1 : 0;
         }
@@ -248,26 +248,17 @@ public final class GrainBench {
     }
 
     public int misfit(int bench, int known) {
-        if (!isDay(known) || !isTold(bench)) {
-            return NONE;
-        }
-        log.tally(bench, known);
-        if (log.all <= 0) {
-            return NONE;
-        }
-        int sum = 0;
-        for (int bits = 0; bits < CLICK_ROWS; bits++) {
-            chances[bench].shareOfClicks(bits, darkTenths, share);
-            sum += Math.abs(1000 * log.seen[bits] / log.all - share.thousandths());
-        }
-        return sum;
+        return isDay(known) && isTold(bench) ? sumApart(bench, known) : NONE;
     }
 
     public int fits(int known) {
+        if (!isDay(known)) {
+            return NONE;
+        }
         int best = NONE;
         int least = 0;
         for (int i = 0; i < BENCHES; i++) {
-            int apart = misfit(i, known);
+            int apart = isTold(i) ? sumApart(i, known) : NONE;
             if (apart != NONE && (best == NONE || apart < least)) {
                 best = i;
                 least = apart;
@@ -298,7 +289,7 @@ public final class GrainBench {
     }
 
     public int plan(int n, int p0, int p1, int p2, int p3, int p4) {
-        long counts = packCounts(p0, p1, p2, p3, p4);
+        int counts = packCounts(p0, p1, p2, p3, p4);
         if (n < 0 || n > MOST_PLANNED || counts < 0 || grains == 0) {
             return NONE;
         }
@@ -374,7 +365,7 @@ public final class GrainBench {
     }
 
     /** Four bits for each path, or NONE if a count is not one of 0 to 3. */
-    private static long packCounts(int p0, int p1, int p2, int p3, int p4) {
+    private static int packCounts(int p0, int p1, int p2, int p3, int p4) {
         int most = Math.max(Math.max(Math.max(p0, p1), Math.max(p2, p3)), p4);
         int least = Math.min(Math.min(Math.min(p0, p1), Math.min(p2, p3)), p4);
         if (least < 0 || most > MOST_GRAINS) {
@@ -384,12 +375,12 @@ public final class GrainBench {
     }
 
     /** The place of a row of counts among all rows; NONE if it holds more grains than there may be. */
-    private static int rowOfCounts(long counts) {
+    private static int rowOfCounts(int counts) {
         int low = 0;
         int mid = 0;
         int high = 0;
         for (int path = 1; path <= PATHS; path++) {
-            long here = counts >> 4 * (path - 1) & 15;
+            int here = counts >> 4 * (path - 1) & 15;
             for (int i = 0; i < here; i++) {
                 if (low != 0) {
                     return NONE;
@@ -430,6 +421,20 @@ public final class GrainBench {
         long under = (long) told.depth * told.depth * Beam.orders(start);
         told.gather(lightThrough(layouts[bench], start), under);
         return true;
+    }
+
+    /** How far the runs of a bench whose odds are told lie apart from them; NONE without runs. */
+    private int sumApart(int bench, int known) {
+        log.tally(bench, known);
+        if (log.all <= 0) {
+            return NONE;
+        }
+        int sum = 0;
+        for (int bits = 0; bits < CLICK_ROWS; bits++) {
+            chances[bench].shareOfClicks(bits, darkTenths, share);
+            sum += Math.abs(1000 * log.seen[bits] / log.all - share.thousandths());
+        }
+        return sum;
     }
 
     private Beam lightThrough(Layout layout, int start) {

@@ -24,6 +24,7 @@ public final class PromiseTests {
         pairsAndNotes();
         plans();
         planTies();
+        planRoots();
         builds();
         statuses();
         keptUntilChanged();
@@ -147,6 +148,12 @@ public final class PromiseTests {
         fault(x, "swap 0 1 swap 0 1", 9);
         fault(x, "swap 0 1 2", 9);
         fault(x, "swaps 0 1", 0);
+        fault(x, "swapz 0 1", 0);
+        fault(x, "aswap 0 1", 0);
+        fault(x, "swap{0 1", 4);
+        fault(x, "swap`0 1", 4);
+        fault(x, "swap /0 1", 5);
+        fault(x, "swap 0:1", 6);
         fault(x, "Swap 0 1", 0);
         fault(x, "swap\t0 1", 4);
         fault(x, "swap 01 2 three", 10);
@@ -185,6 +192,10 @@ public final class PromiseTests {
         fault(x, "if 0 = 1 do swap 1 2", 3);
         fault(x, "count 0;if 1 = 1 do swap 1 2", 11);
         fault(x, "count 0;if 0 1 do swap 1 2", 13);
+        fault(x, "if swap 1 2", 3);
+        fault(x, "count 0;if swap 1 2", 11);
+        fault(x, "count 0;if 0 swap 1 2", 13);
+        fault(x, "count 0;if 0 = swap 1 2", 15);
         fault(x, "count 0;if 0 = 4 do swap 1 2", 15);
         fault(x, "count 0;if 0 = 1 swap 1 2", 17);
         fault(x, "count 0;if 0 = 1 do swap 0 2", 25);
@@ -508,6 +519,10 @@ public final class PromiseTests {
         Due.bench(x, 2, "split 0 1 three;split 1 2 half;split 0 1 three", 3);
         x.run(2, 4, 2);
         Due.due("misfit with more roots", x.misfit(2, 2), 9 + 670 + 680);
+        x.run(2, 1, 5);
+        x.run(2, 1, 5);
+        x.run(2, 1, 5);
+        Due.due("misfit with more roots, the less likely seen more", x.misfit(2, 5), 741 + 670 + 70);
         Due.due("fits", x.fits(2), 0);
         Due.due("fits on day 0", x.fits(0), 0);
         Due.bench(x, 3, "split 0 1 half", 1);
@@ -654,6 +669,34 @@ public final class PromiseTests {
         Due.shelf(z, "split 0 1 three", 1);
         Due.due("with roots", z.plan(3, 1, 0, 1, 0, 0), 3);
         planned(z, "with roots", 3456, 2304, 15625, 1, 0, 1);
+    }
+
+    private static void planRow(String name, int[] modes, String[] parts, int[] row, long... want) {
+        GrainBench x = new GrainBench();
+        for (int mode : modes) {
+            x.grain(mode);
+        }
+        for (int i = 0; i < parts.length; i++) {
+            Due.shelf(x, parts[i], i);
+        }
+        Due.due(name, x.plan(3, row[0], row[1], row[2], row[3], row[4]), want.length - 3);
+        planned(x, name, want);
+    }
+
+    /** Odds that lie near one another, with roots on one side or on both; the model agrees. */
+    private static void planRoots() {
+        planRow("above (216 + 144 r) / 625", new int[] {1, 0},
+                new String[] {"split 0 1 three", "split 1 2 half", "split 2 0 three", "shift 0 mark 0 3"},
+                Due.row(0, 1, 1, 0, 0), 3456, 2304, 15625, 0, 1, 0);
+        planRow("5 and 2 r", new int[] {1, 0, 3}, new String[] {"split 2 1 half", "split 0 1 half"},
+                Due.row(0, 1, 2, 0, 0), 5, 2, 64, 0, 1, 0);
+        planRow("no roots in the best", new int[] {0, 1}, new String[] {"split 0 2 half", "turn 2 half", "split 0 1 four"},
+                Due.row(0, 1, 1, 0, 0), 288, 0, 625, 0, 2, 2);
+        planRow("three alike apart", new int[] {2, 2, 2},
+                new String[] {"split 1 0 four", "turn 1 four", "turn 0 four", "split 0 2 half"},
+                Due.row(1, 1, 1, 0, 0), 1944, 0, 15625, 0, 3);
+        planRow("great numbers", new int[] {3, 1, 0}, new String[] {"split 2 0 four", "turn 0 half", "split 0 1 four"},
+                Due.row(0, 3, 0, 0, 0), 36080640, 20072448, 244140625, 2, 1, 2);
     }
 
     private static void builds() {
