@@ -537,6 +537,10 @@ public final class GrainBench {
             return kind == KIND_HALF ? 1 : 0;
         }
 
+        private boolean joinsPaths() {
+            return act == ACT_SPLIT || act == ACT_SWAP;
+        }
+
         private boolean actsOn(int key) {
             return waitPath == NONE || Beam.grainsIn(key, waitPath + 1) == waitCount;
         }
@@ -1044,6 +1048,18 @@ public final class GrainBench {
             }
         }
 
+        /** Whether a grain may be in a path that the part names. */
+        private boolean isMetBy(Part part) {
+            for (int i = 0; i < size; i++) {
+                int met = grainsIn(keys[i], part.first + 1);
+                met += part.joinsPaths() ? grainsIn(keys[i], part.second + 1) : 0;
+                if (met > 0 && !isZero(placeOfKey(keys[i]))) {
+                    return true;
+                }
+            }
+            return false;
+        }
+
         private static long idleFactor(int key, int base) {
             long factor = low(key) == 0 ? 1 : base;
             factor *= mid(key) == 0 ? 1 : base;
@@ -1410,20 +1426,20 @@ public final class GrainBench {
             for (int step = 0; step < MOST_STEPS && length >= 0; step++) {
                 if (length >= most || length >= MOST_PLANNED || following[length] >= shelved.size) {
                     length--;
-                } else if (lengthen(length, grains)) {
+                } else if (lengthen(length, most, grains)) {
                     length++;
                     weigh(length, wanted, orders);
                 }
             }
         }
 
-        /** Puts the part that follows behind the row of this length, unless that is too deep. */
-        private boolean lengthen(int length, int grains) {
+        /** Puts the part that follows behind the row of this length, unless that is too deep or vain. */
+        private boolean lengthen(int length, int most, int grains) {
             int next = following[length];
             following[length]++;
             Part part = shelved.parts[next];
             int deeper = Layout.deepen(depths[length], part.base(), grains);
-            if (deeper > DEEPEST) {
+            if (deeper > DEEPEST || isVain(part, beams[length], length + 1 >= most)) {
                 return false;
             }
             row[length] = next;
@@ -1431,6 +1447,14 @@ public final class GrainBench {
             depths[length + 1] = deeper;
             following[length + 1] = 0;
             return true;
+        }
+
+        /**
+         * Whether rows with the part here have the odds of shorter ones without it, which come ahead:
+         * it meets no grain, or it is the last part and leaves each grain in its path.
+         */
+        private static boolean isVain(Part part, Beam beam, boolean isLast) {
+            return (isLast && !part.joinsPaths()) || !beam.isMetBy(part);
         }
 
         /** Keeps the row if it is better; rows of one length come in their order, so the first stays. */
