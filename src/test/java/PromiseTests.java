@@ -683,7 +683,7 @@ public final class PromiseTests {
         planned(x, name, want);
     }
 
-    /** Odds that lie near one another, with roots on one side or on both; the model agrees. */
+    /** Odds that lie near one another; these answers came from the program and the model confirmed them. */
     private static void planRoots() {
         planRow("above (216 + 144 r) / 625", new int[] {1, 0},
                 new String[] {"split 0 1 three", "split 1 2 half", "split 2 0 three", "shift 0 mark 0 3"},
