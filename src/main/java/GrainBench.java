@@ -130,6 +130,8 @@ public final class GrainBench {
 
     public int bench(int bench) {
         if (!isBench(bench)) {
+            // The tape is empty behind every call, also one that reads no text.
+            tape.length = 0;
             return refuse(NO_BENCH);
         }
         latestFault = reader.readParts();
@@ -144,6 +146,8 @@ public final class GrainBench {
 
     public int shelf() {
         if (shelved.size >= MOST_SHELVED) {
+            // As in bench(): the tape is empty behind every call.
+            tape.length = 0;
             return refuse(NO_ROOM);
         }
         latestFault = reader.readDeedAlone();

@@ -296,10 +296,10 @@ final class Model {
     }
 
     long bench(int bench) {
+        begin();
         if (!in(bench, 0, 3)) {
             return refuse(-2);
         }
-        begin();
         List<P> parts = new ArrayList<>();
         try {
             while (!is("") || !parts.isEmpty()) {
@@ -322,10 +322,10 @@ final class Model {
     }
 
     long shelf() {
+        begin();
         if (shelf.size() == 8) {
             return refuse(-5);
         }
-        begin();
         P part = new P();
         try {
             deed(part);

@@ -112,17 +112,18 @@ public final class PromiseTests {
         Due.bench(x, 2, "  swap  0  1  ", 1);
         Due.bench(x, 3, sixteen("swap 0 1"), 16);
         Due.due("count(4)", x.count(4), 16);
-        Due.tell(x, "swap 0 1");
-        Due.due("no such bench", x.bench(4), -2);
-        Due.due("no such bench", x.bench(-1), -2);
-        Due.due("it was not read", x.count(7), 8);
-        Due.due("fault of the latest that was read", x.fault(), -1);
-        Due.due("read now", x.bench(3), 1);
+        for (int none : new int[] {4, -1, Integer.MIN_VALUE, Integer.MAX_VALUE}) {
+            Due.bench(x, none, "swap 0 0", -2);
+            Due.due("the tape is empty behind bench(" + none + ")", x.count(7), 0);
+            Due.due("fault of the latest that was read", x.fault(), -1);
+        }
+        Due.bench(x, 0, "swap 0 0", -6);
+        Due.bench(x, 4, "swap 0 1", -2);
+        Due.due("no text was read, so the fault is as it was", x.fault(), 7);
+        Due.due("the next text begins anew", x.feed(0x20202020, 0x20202020, 0x20202020, 0x20202020, 0x20202020), 20);
+        Due.due("blanks of it alone", x.bench(3), 0);
         Due.bench(x, 3, "lose 0 half;lose 0 half;lose 0 half", 3);
         Due.bench(x, 3, "shift 00 003", 1);
-        for (int far : FAR) {
-            Due.due("bench(" + far + ")", x.bench(far), -2);
-        }
     }
 
     private static String sixteen(String part) {
@@ -229,8 +230,13 @@ public final class PromiseTests {
         }
         Due.due("count(5)", x.count(5), 8);
         Due.shelf(x, "nothing good", -5);
-        Due.due("it was not read", x.count(7), 12);
-        Due.due("nor has it a fault", x.fault(), -1);
+        Due.due("the tape is empty behind a full shelf", x.count(7), 0);
+        Due.due("it was not read, so it has no fault", x.fault(), -1);
+        Due.bench(x, 0, "swap 0 0", -6);
+        Due.shelf(x, "swap 0 1", -5);
+        Due.due("the tape is empty again", x.count(7), 0);
+        Due.due("the fault is as it was", x.fault(), 7);
+        Due.due("the shelf, too", x.count(5), 8);
     }
 
     private static void depths() {
