@@ -22,6 +22,7 @@ public final class PromiseTests {
         wrongRuns();
         misfits();
         pairsAndNotes();
+        notesBelowTwo();
         plans();
         planTies();
         planRoots();
@@ -124,6 +125,15 @@ public final class PromiseTests {
         Due.due("blanks of it alone", x.bench(3), 0);
         Due.bench(x, 3, "lose 0 half;lose 0 half;lose 0 half", 3);
         Due.bench(x, 3, "shift 00 003", 1);
+        cutText(x, "swap 0 12", 8);
+        cutText(x, "turn 0 halfs", 11);
+    }
+
+    /** Bytes that end() took away are not read, also if they would go on with the last token. */
+    private static void cutText(GrainBench x, String text, int length) {
+        Due.tell(x, text);
+        Due.due("end of '" + text + "'", x.end(length), length);
+        Due.due("bench of '" + text + "' up to " + length, x.bench(3), 1);
     }
 
     private static String sixteen(String part) {
@@ -160,6 +170,7 @@ public final class PromiseTests {
         fault(x, "swap 01 2 three", 10);
         fault(x, "swap 5 0", 5);
         fault(x, "swap 10 0", 5);
+        fault(x, "swap 19 0", 5);
         fault(x, "swap -1 0", 5);
         fault(x, "swap 99999999999999999999 0", 5);
         fault(x, "swap 3 3", 7);
@@ -170,6 +181,8 @@ public final class PromiseTests {
         fault(x, "split 0 1 halfturn", 10);
         fault(x, "turn 0 1 half", 7);
         fault(x, "turn half", 5);
+        fault(x, "shift 0 mark", 12);
+        fault(x, "shift 0 mark 2", 13);
         fault(x, "shift 0 mark 2 1", 13);
         fault(x, "shift 0 mark 1", 14);
         fault(x, "shift 0 mark 1 4", 15);
@@ -313,6 +326,13 @@ public final class PromiseTests {
         Due.bench(x, 1, "lose 0 four;lose 0 four;lose 0 half", 3);
         Due.odds(x, "lost thrice", 1, Due.row(1, 0, 0, 0, 0), Due.share(128, 0, 625));
         Due.odds(x, "lost thrice", 1, Due.row(0, 0, 0, 0, 0), Due.share(497, 0, 625));
+        GrainBench y = new GrainBench();
+        Due.bench(y, 0, "lose 1 half;lose 2 half;lose 0 half", 3);
+        for (int i = 0; i < 3; i++) {
+            y.grain(1);
+        }
+        Due.odds(y, "all lost at the last", 0, Due.row(0, 0, 0, 0, 0), Due.share(1, 0, 8));
+        Due.odds(y, "two lost at the last", 0, Due.row(1, 0, 0, 0, 0), Due.share(3, 0, 8));
         Due.bench(x, 2, "turn 0 half;split 0 1 half;turn 0 half;split 0 1 half", 4);
         Due.odds(x, "marks", 2, Due.row(1, 0, 0, 0, 0), Due.share(2, -1, 4));
         Due.odds(x, "marks", 2, Due.row(0, 1, 0, 0, 0), Due.share(2, 1, 4));
@@ -446,6 +466,12 @@ public final class PromiseTests {
         x.clear();
         Due.clicks(x, "all dark", 0, 31, Due.share(59049, 0, 100000));
         Due.clicks(x, "none dark", 0, 0, Due.share(1, 0, 100000));
+        GrainBench three = new GrainBench();
+        three.grain(0);
+        three.grain(5);
+        three.grain(8);
+        Due.clicks(three, "three apart", 0, 1 | 4 | 16, Due.share(1, 0, 1));
+        Due.clicks(three, "two of three apart", 0, 4 | 16, Due.share(0, 0, 1));
     }
 
     private static void runsAndCounted() {
@@ -467,6 +493,8 @@ public final class PromiseTests {
         Due.due("counted at 999", x.counted(1, -1, 999), 50);
         Due.due("counted by bits", x.counted(0, 4, 0), 7);
         Due.due("counted by other bits", x.counted(0, 5, 999), 0);
+        Due.due("counted of no clicks", x.counted(0, 0, 999), 7);
+        Due.due("counted of no clicks elsewhere", x.counted(1, 0, 999), 0);
         Due.due("counted(4, ..)", x.counted(4, -1, 0), -1);
         Due.due("counted(-1, ..)", x.counted(-1, -1, 0), -1);
         Due.due("counted, bits -2", x.counted(0, -2, 0), -1);
@@ -488,6 +516,8 @@ public final class PromiseTests {
         Due.due("wrong on day 7", x.wrong(0, 7), 2);
         Due.due("wrong of another bench", x.wrong(1, 7), 1);
         Due.due("wrong without runs", x.wrong(2, 7), 0);
+        x.run(2, 0, 8);
+        Due.due("wrong without clicks", x.wrong(2, 8), 1);
         x.dark(1, 1);
         Due.due("wrong no more, for it may be dark", x.wrong(0, 7), 0);
         x.clear();
@@ -539,6 +569,10 @@ public final class PromiseTests {
         x.run(0, 2, 4);
         Due.due("fits(-1)", x.fits(-1), -1);
         Due.due("fits(1000)", x.fits(1000), -1);
+        GrainBench silent = new GrainBench();
+        silent.grain(0);
+        silent.run(0, 0, 0);
+        Due.due("misfit of no clicks", silent.misfit(0, 0), 2000);
         Due.due("misfit(4, 0)", x.misfit(4, 0), -1);
         Due.due("misfit(-1, 0)", x.misfit(-1, 0), -1);
         Due.due("misfit(0, 1000)", x.misfit(0, 1000), -1);
@@ -567,6 +601,8 @@ public final class PromiseTests {
         x.run(1, 10, 4);
         x.run(1, 6, 4);
         x.run(2, 5, 4);
+        Due.due("like of bench 1", x.pairs(1, 4, 0), 2);
+        Due.due("unlike of bench 1", x.pairs(1, 4, 1), 1);
         Due.due("notes with a bench that has none", x.notes(4, 0), NOTHING);
         x.run(3, 16 | 5, 4);
         Due.due("counter 4 clicked", x.notes(4, 0), NOTHING);
@@ -600,6 +636,25 @@ public final class PromiseTests {
         Due.due("lower of 0", flat.notes(0, 1), 1);
     }
 
+    /** 4 / 5, 4 / 5, 1 / 5 and 0: at most 9 / 5. */
+    private static void notesBelowTwo() {
+        int[] like = {9, 9, 3, 1};
+        int[] unlike = {1, 1, 2, 1};
+        GrainBench x = new GrainBench();
+        for (int bench = 0; bench < 4; bench++) {
+            for (int i = 0; i < like[bench]; i++) {
+                x.run(bench, i % 2 == 0 ? 5 : 10, 999);
+            }
+            for (int i = 0; i < unlike[bench]; i++) {
+                x.run(bench, i % 2 == 0 ? 6 : 9, 999);
+            }
+        }
+        Due.due("upper below 2", x.notes(999, 0), 9);
+        Due.due("lower below 2", x.notes(999, 1), 5);
+        Due.due("below 2", x.notes(999, 2), 0);
+        Due.due("the day ahead", x.notes(998, 0), NOTHING);
+    }
+
     private static void planned(GrainBench x, String name, long... want) {
         int[] places = {-1, -2, -3, 0, 1, 2, 3};
         for (int i = 0; i < places.length; i++) {
@@ -629,6 +684,8 @@ public final class PromiseTests {
         Due.due("plan with a count of 4", x.plan(1, 0, 0, 0, 0, 4), -1);
         Due.due("plan with a count of -1", x.plan(1, -1, 0, 0, 0, 0), -1);
         planned(x, "the latest stays", 16, 0, 25, 2, 1, 1);
+        Due.due("plan of no grain at all", x.plan(3, 0, 0, 0, 0, 0), 0);
+        planned(x, "no grain at all", 0, 0, 1);
         Due.due("plan of what can't be", x.plan(3, 2, 2, 2, 2, 2), 0);
         planned(x, "what can't be", 0, 0, 1);
         x.clear();
@@ -772,6 +829,7 @@ public final class PromiseTests {
         x.clear();
         Due.odds(x, "behind clear()", 0, Due.row(0, 0, 0, 0, 0), Due.share(1, 0, 1));
         x.grain(0);
+        Due.odds(x, "behind grain() again", 0, Due.row(0, 0, 0, 0, 0), Due.share(0, 0, 1));
         Due.shelf(x, "swap 0 3", 0);
         x.plan(1, 0, 0, 0, 1, 0);
         x.build(0);
