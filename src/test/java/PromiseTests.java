@@ -24,6 +24,8 @@ public final class PromiseTests {
         pairsAndNotes();
         notesBelowTwo();
         plans();
+        planFullShelf();
+        planTooDeep();
         planTies();
         planRoots();
         builds();
@@ -398,6 +400,15 @@ public final class PromiseTests {
         Due.bench(x, 3, "lose 0 half;count 0;if 0 = 0 do swap 2 3", 3);
         Due.odds(x, "hidden ones are not", 3, Due.row(0, 0, 0, 1, 0), Due.share(1, 0, 4));
         Due.odds(x, "hidden ones are not", 3, Due.row(1, 0, 1, 0, 0), Due.share(1, 0, 2));
+        GrainBench y = new GrainBench();
+        y.grain(0);
+        y.grain(8);
+        Due.bench(y, 0, "count 4;if 4 = 1 do swap 0 1;if 4 = 2 do swap 1 2", 3);
+        Due.odds(y, "one in the highest path", 0, Due.row(0, 1, 0, 0, 1), Due.share(1, 0, 1));
+        y.grain(9);
+        Due.odds(y, "two in the highest path", 0, Due.row(1, 0, 0, 0, 2), Due.share(1, 0, 1));
+        Due.bench(y, 0, "count 4;if 4 = 2 do swap 0 2;if 4 = 1 do swap 2 3", 3);
+        Due.odds(y, "two of both marks", 0, Due.row(0, 0, 1, 0, 2), Due.share(1, 0, 1));
     }
 
     private static void oddsRefused() {
@@ -699,6 +710,34 @@ public final class PromiseTests {
         planned(x, "three grains", 1, 0, 1, 0, 2);
         Due.due("plan of three grains further", x.plan(3, 0, 0, 3, 0, 0), 3);
         planned(x, "three grains further", 4096, 0, 15625, 2, 1, 1);
+    }
+
+    private static void planFullShelf() {
+        GrainBench x = new GrainBench();
+        String[] parts = {"swap 3 4", "swap 1 2", "swap 0 1", "turn 0 half", "turn 1 half", "turn 2 half", "shift 0 1", "swap 2 3"};
+        for (int i = 0; i < parts.length; i++) {
+            Due.shelf(x, parts[i], i);
+        }
+        x.grain(1);
+        Due.due("three of eight", x.plan(3, 0, 0, 0, 1, 0), 3);
+        planned(x, "three of eight", 1, 0, 1, 2, 1, 7);
+        Due.due("four would be needed", x.plan(3, 0, 0, 0, 0, 1), 0);
+        planned(x, "four would be needed", 0, 0, 1);
+    }
+
+    /** Three of these go through 15,625 for two grains, and through far more than 300,000 for three. */
+    private static void planTooDeep() {
+        GrainBench x = new GrainBench();
+        Due.shelf(x, "split 0 1 three", 0);
+        Due.shelf(x, "split 1 2 three", 1);
+        Due.shelf(x, "split 2 3 three", 2);
+        x.grain(0);
+        x.grain(0);
+        Due.due("not too deep", x.plan(3, 0, 0, 0, 2, 0), 3);
+        planned(x, "not too deep", 16777216, 0, 244140625, 0, 1, 2);
+        x.grain(0);
+        Due.due("too deep", x.plan(3, 0, 0, 0, 3, 0), 0);
+        planned(x, "too deep", 0, 0, 1);
     }
 
     private static void planTies() {
