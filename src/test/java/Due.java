@@ -1,6 +1,16 @@
+import java.lang.reflect.InvocationTargetException;
+import java.lang.reflect.Method;
+import java.lang.reflect.Modifier;
+import java.util.Arrays;
+import java.util.Comparator;
+
 /** What the project's tests share: the count of wrong answers, and texts put on a tape. */
 final class Due {
+    static final int[] FAR = {Integer.MIN_VALUE, Integer.MAX_VALUE};
+
     private static int wrong = 0;
+    /** The test that runs, for what is printed. */
+    private static String running = "";
 
     private Due() {
     }
@@ -9,8 +19,36 @@ final class Due {
         if (got != want) {
             wrong++;
             if (wrong <= 50) {
-                System.out.println(call + " answered " + got + ", due is " + want);
+                System.out.println(running + call + " answered " + got + ", due is " + want);
             }
+        }
+    }
+
+    /** Runs each test of a class, so that none can be left out: its static methods without parameters. */
+    static void all(Class<?> tests) {
+        Method[] methods = tests.getDeclaredMethods();
+        Arrays.sort(methods, Comparator.comparing(Method::getName));
+        int ran = 0;
+        for (Method test : methods) {
+            if (Modifier.isStatic(test.getModifiers()) && test.getParameterCount() == 0
+                    && test.getReturnType() == void.class) {
+                running = test.getName() + ": ";
+                runOne(test);
+                ran++;
+            }
+        }
+        running = "";
+        finish(tests.getSimpleName() + ", " + ran + " tests");
+    }
+
+    private static void runOne(Method test) {
+        try {
+            test.setAccessible(true);
+            test.invoke(null);
+        } catch (InvocationTargetException thrown) {
+            holds("no call throws " + thrown.getCause(), false);
+        } catch (IllegalAccessException hidden) {
+            holds("the test can be reached", false);
         }
     }
 
@@ -40,6 +78,40 @@ final class Due {
     static void bench(GrainBench x, int bench, String text, int want) {
         tell(x, text);
         due("bench(" + bench + ") of '" + text + "'", x.bench(bench), want);
+    }
+
+    /** A new object with such a bench 0; the text has to be good. */
+    static GrainBench with(String text) {
+        GrainBench x = new GrainBench();
+        tell(x, text);
+        holds("bench(0) of '" + text + "' is taken", x.bench(0) >= 0);
+        return x;
+    }
+
+    /** A new object with grains in these modes. */
+    static GrainBench lit(int... modes) {
+        GrainBench x = new GrainBench();
+        for (int mode : modes) {
+            x.grain(mode);
+        }
+        return x;
+    }
+
+    /** A text that a bench has to refuse, and where. */
+    static void fault(GrainBench x, String text, int place) {
+        bench(x, 0, text, -6);
+        due("fault of '" + text + "'", x.fault(), place);
+    }
+
+    /** A text of one part, so many times. */
+    static String times(int many, String part) {
+        return (part + ";").repeat(many - 1) + part;
+    }
+
+    static void way(GrainBench x, int from, int to, long... want) {
+        for (int what = 0; what < want.length; what++) {
+            due("way(0, " + from + ", " + to + ", " + what + ")", x.way(0, from, to, what), want[what]);
+        }
     }
 
     static void shelf(GrainBench x, String text, int want) {
