@@ -27,6 +27,7 @@ public final class LanguageTests {
         face();
         source(Files.readString(Path.of("src/main/java/GrainBench.java")));
         room();
+        edges();
         Due.finish("LanguageTests");
     }
 
@@ -84,6 +85,23 @@ public final class LanguageTests {
             int stop = text.indexOf("\n" + head.group(1) + "}\n", head.end());
             long lines = text.substring(head.start(), stop).lines().count();
             Due.holds(head.group().trim() + " is short", lines <= 60);
+        }
+    }
+
+    /** Beside each test of an edge a comment names its promise, and no promise is left out. */
+    private static void edges() throws IOException {
+        StringBuilder comments = new StringBuilder();
+        for (String name : new String[] {"TextEdges", "LightEdges", "RunEdges", "PlanEdges"}) {
+            String text = Files.readString(Path.of("src/test/java/" + name + ".java"));
+            Matcher test = Pattern.compile("(?m)((?:^    //.*\n)*)^    static void (\\w+)\\(\\)").matcher(text);
+            while (test.find()) {
+                Due.holds(name + "." + test.group(2) + " names its promise", test.group(1).contains("romise"));
+                comments.append(test.group(1));
+            }
+        }
+        for (int promise = 1; promise <= 25; promise++) {
+            Pattern named = Pattern.compile("Promises? (\\d+(, | and ))*" + promise + "\\b");
+            Due.holds("promise " + promise + " has tests of its edges", named.matcher(comments).find());
         }
     }
 

@@ -381,6 +381,9 @@ public final class LightEdges {
         x.grain(0);
         odds(x, Due.row(1, 2, 0, 0, 0), ONE);
         Due.way(x, 2, 2, 10, 0, 0, 0, 10);
+        x = put(Due.with("count 4;if 4 = 1 do turn 0 half"), 0);
+        odds(x, ONE_IN_0, ONE);
+        Due.way(x, 0, 0, 2, 0, 0, 0, 2);
     }
 
     // Promise 11, Terms: grains in hidden paths are not in P, nor are those of the path beside it.

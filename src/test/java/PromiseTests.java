@@ -34,6 +34,7 @@ public final class PromiseTests {
         Due.finish("PromiseTests");
     }
 
+    // Promise 1.
     private static void newObject() {
         GrainBench x = new GrainBench();
         for (int what = 0; what < 8; what++) {
@@ -54,6 +55,7 @@ public final class PromiseTests {
         }
     }
 
+    // Promises 2 and 3; 24.
     private static void grainAndClear() {
         GrainBench x = new GrainBench();
         Due.due("clear of none", x.clear(), 0);
@@ -76,6 +78,7 @@ public final class PromiseTests {
         Due.due("count(-1)", x.count(-1), -1);
     }
 
+    // Promises 4 and 5.
     private static void tape() {
         GrainBench x = new GrainBench();
         Due.due("end(1) of an empty tape", x.end(1), -1);
@@ -102,6 +105,7 @@ public final class PromiseTests {
         }
     }
 
+    // Promises 6 and 8.
     private static void benchTexts() {
         GrainBench x = new GrainBench();
         Due.bench(x, 0, "split 0 1 half;turn 4 three ; shift 2 mark 0 3;shift 3 0;swap 1 4;lose 2 four;count 3", 7);
@@ -152,6 +156,7 @@ public final class PromiseTests {
         Due.due("status of it", x.status(), -6);
     }
 
+    // Promises 6 and 8.
     private static void faults() {
         GrainBench x = new GrainBench();
         fault(x, ";", 0);
@@ -203,6 +208,7 @@ public final class PromiseTests {
         Due.due("no bench came of it", x.count(1), 0);
     }
 
+    // Promises 6 and 8.
     private static void waitingTexts() {
         GrainBench x = new GrainBench();
         fault(x, "if 0 = 1 do swap 1 2", 3);
@@ -229,6 +235,7 @@ public final class PromiseTests {
         Due.bench(x, 0, "turn 0 half;count 1", 2);
     }
 
+    // Promises 7 and 8.
     private static void shelfTexts() {
         GrainBench x = new GrainBench();
         String[] refused = {"", "  ", "count 0", "lose 0 half", "if 0 = 1 do swap 0 1", "swap 0 1;", "swap 0 1;swap 0 1", "swap 0 0"};
@@ -254,6 +261,7 @@ public final class PromiseTests {
         Due.due("the shelf, too", x.count(5), 8);
     }
 
+    // Promise 9.
     private static void depths() {
         GrainBench x = new GrainBench();
         Due.bench(x, 0, "split 0 1 three;turn 2 four;lose 3 half;count 4;shift 0 1;swap 0 1;if 4 = 0 do turn 0 half", 7);
@@ -280,6 +288,7 @@ public final class PromiseTests {
         }
     }
 
+    // Promise 10.
     private static void ways() {
         GrainBench x = new GrainBench();
         Due.bench(x, 0, "split 0 1 three", 1);
@@ -317,6 +326,7 @@ public final class PromiseTests {
         }
     }
 
+    // Promise 11.
     private static void oddsOfOne() {
         GrainBench x = new GrainBench();
         x.grain(0);
@@ -340,6 +350,7 @@ public final class PromiseTests {
         Due.odds(x, "marks", 2, Due.row(0, 1, 0, 0, 0), Due.share(2, 1, 4));
     }
 
+    // Promise 11.
     private static void oddsOfMany() {
         GrainBench x = new GrainBench();
         Due.bench(x, 0, "split 0 1 half", 1);
@@ -379,6 +390,7 @@ public final class PromiseTests {
         Due.odds(x, "unlike ones part", 0, Due.row(1, 1, 0, 0, 0), Due.share(1, 0, 2));
     }
 
+    // Promise 11.
     private static void oddsBehindWaiting() {
         GrainBench x = new GrainBench();
         x.grain(0);
@@ -411,6 +423,7 @@ public final class PromiseTests {
         Due.odds(y, "two of both marks", 0, Due.row(0, 0, 1, 0, 2), Due.share(1, 0, 1));
     }
 
+    // Promises 11 and 13.
     private static void oddsRefused() {
         GrainBench x = new GrainBench();
         x.grain(0);
@@ -442,6 +455,7 @@ public final class PromiseTests {
         Due.due("clicks what -1", x.clicks(4, 99, -1), -1);
     }
 
+    // Promises 12 and 13.
     private static void darkClicks() {
         GrainBench x = new GrainBench();
         Due.due("dark was 0", x.dark(0, 9), 0);
@@ -485,6 +499,7 @@ public final class PromiseTests {
         Due.clicks(three, "two of three apart", 0, 4 | 16, Due.share(0, 0, 1));
     }
 
+    // Promises 14 and 15.
     private static void runsAndCounted() {
         GrainBench x = new GrainBench();
         Due.due("run(0, -1, 0)", x.run(0, -1, 0), -1);
@@ -514,6 +529,7 @@ public final class PromiseTests {
         Due.due("counted, day 1000", x.counted(0, 0, 1000), -1);
     }
 
+    // Promise 16.
     private static void wrongRuns() {
         GrainBench x = new GrainBench();
         x.grain(0);
@@ -545,6 +561,7 @@ public final class PromiseTests {
         Due.due("misfit, too deep", x.misfit(3, 0), -1);
     }
 
+    // Promises 17 and 18.
     private static void misfits() {
         GrainBench x = new GrainBench();
         x.grain(0);
@@ -594,6 +611,7 @@ public final class PromiseTests {
         Due.due("fits of alike ones the lowest", alike.fits(0), 1);
     }
 
+    // Promises 19 and 20.
     private static void pairsAndNotes() {
         GrainBench x = new GrainBench();
         for (int bits = 0; bits < 32; bits++) {
@@ -648,6 +666,7 @@ public final class PromiseTests {
     }
 
     /** 4 / 5, 4 / 5, 1 / 5 and 0: at most 9 / 5. */
+    // Promise 20.
     private static void notesBelowTwo() {
         int[] like = {9, 9, 3, 1};
         int[] unlike = {1, 1, 2, 1};
@@ -674,6 +693,7 @@ public final class PromiseTests {
         Due.due(name + ", planned(-4)", x.planned(-4), NOTHING);
     }
 
+    // Promises 21 and 22.
     private static void plans() {
         GrainBench x = new GrainBench();
         Due.due("plan without grains", x.plan(0, 0, 0, 0, 0, 0), -1);
@@ -712,6 +732,7 @@ public final class PromiseTests {
         planned(x, "three grains further", 4096, 0, 15625, 2, 1, 1);
     }
 
+    // Promise 21.
     private static void planFullShelf() {
         GrainBench x = new GrainBench();
         String[] parts = {"swap 3 4", "swap 1 2", "swap 0 1", "turn 0 half", "turn 1 half", "turn 2 half", "shift 0 1", "swap 2 3"};
@@ -726,6 +747,7 @@ public final class PromiseTests {
     }
 
     /** Three of these go through 15,625 for two grains, and through far more than 300,000 for three. */
+    // Promise 21.
     private static void planTooDeep() {
         GrainBench x = new GrainBench();
         Due.shelf(x, "split 0 1 three", 0);
@@ -740,6 +762,7 @@ public final class PromiseTests {
         planned(x, "too deep", 0, 0, 1);
     }
 
+    // Promise 21.
     private static void planTies() {
         GrainBench x = new GrainBench();
         x.grain(0);
@@ -786,6 +809,7 @@ public final class PromiseTests {
     }
 
     /** Odds that lie near one another; these answers came from the program and the model confirmed them. */
+    // Promise 21.
     private static void planRoots() {
         planRow("above (216 + 144 r) / 625", new int[] {1, 0},
                 new String[] {"split 0 1 three", "split 1 2 half", "split 2 0 three", "shift 0 mark 0 3"},
@@ -801,6 +825,7 @@ public final class PromiseTests {
                 Due.row(0, 3, 0, 0, 0), 36080640, 20072448, 244140625, 2, 1, 2);
     }
 
+    // Promise 23.
     private static void builds() {
         GrainBench x = new GrainBench();
         Due.due("build without a plan", x.build(0), -6);
@@ -828,6 +853,7 @@ public final class PromiseTests {
         Due.due("status behind " + call, x.status(), want);
     }
 
+    // Promise 25.
     private static void statuses() {
         GrainBench x = new GrainBench();
         status(x, "grain(10)", x.grain(10), -1);
@@ -855,6 +881,7 @@ public final class PromiseTests {
     }
 
     /** Odds are kept inside between calls; nothing that changes them may be overlooked. */
+    // Promises 2, 3, 6, 11 and 23.
     private static void keptUntilChanged() {
         GrainBench x = new GrainBench();
         x.grain(0);

@@ -185,6 +185,13 @@ public final class TextEdges {
         Due.due("fault", x.fault(), -1);
     }
 
+    // Promise 6, Terms: "a TAPE of at most 400 bytes": all of them are read, the last one, too.
+    static void benchOfFourHundredBytes() {
+        GrainBench x = new GrainBench();
+        Due.bench(x, 0, blanks(391) + "shift 0 3", 1);
+        Due.due("way", x.way(0, 0, 0, 2), -1);
+    }
+
     // Promise 6, Terms: "BENCHES 0 .. 3", the lowest and the highest; each its own.
     static void benchesFromZeroToThree() {
         GrainBench x = new GrainBench();
@@ -453,6 +460,7 @@ public final class TextEdges {
             Due.fault(x, "split " + path + " " + path + " half", 8);
             Due.fault(x, "swap " + path + " " + path, 7);
         }
+        Due.fault(x, "count 0;if 0 = 1 do swap 1 1", 27);
     }
 
     // Promises 6 and 8, Terms: "A PATH that was COUNTED ahead is the FAULT in all that follows but "if"".
