@@ -9,7 +9,9 @@ import java.nio.file.Path;
 import java.util.ArrayList;
 import java.util.HashSet;
 import java.util.List;
+import java.util.Map;
 import java.util.Set;
+import java.util.TreeMap;
 import java.util.TreeSet;
 import java.util.regex.Matcher;
 import java.util.regex.Pattern;
@@ -26,6 +28,7 @@ public final class LanguageTests {
     public static void main(String[] args) throws IOException {
         face();
         source(Files.readString(Path.of("src/main/java/GrainBench.java")));
+        depth(Files.readString(Path.of("src/main/java/GrainBench.java")));
         room();
         edges();
         Due.finish("LanguageTests");
@@ -86,6 +89,40 @@ public final class LanguageTests {
             long lines = text.substring(head.start(), stop).lines().count();
             Due.holds(head.group().trim() + " is short", lines <= 60);
         }
+    }
+
+    /** Calls go at most eight deep. Methods of one name are taken for one, so the depth is never told too low. */
+    private static void depth(String text) {
+        String code = text.replaceAll("(?s)/\\*.*?\\*/", "").replaceAll("//[^\n]*", "");
+        Map<String, Set<String>> calls = new TreeMap<>();
+        Matcher head = Pattern.compile("(?m)^( +)(?:private|public) [^=;(]*?(\\w+)\\([^=;]*\\) \\{$").matcher(code);
+        while (head.find()) {
+            String body = code.substring(head.end(), code.indexOf("\n" + head.group(1) + "}\n", head.end()));
+            Set<String> called = calls.computeIfAbsent(head.group(2), name -> new TreeSet<>());
+            Matcher call = Pattern.compile("(\\w+)\\(").matcher(body);
+            while (call.find()) {
+                called.add(call.group(1));
+            }
+        }
+        Due.holds("methods were found", calls.size() > 100);
+        for (String name : calls.keySet()) {
+            List<String> chain = deepest(name, calls, 0);
+            Due.holds(chain + " is at most eight deep", chain.size() <= 8);
+        }
+    }
+
+    /** The longest chain of calls from a method on; one that goes in a ring is cut far above eight. */
+    private static List<String> deepest(String name, Map<String, Set<String>> calls, int above) {
+        List<String> longest = new ArrayList<>();
+        if (above < 12) {
+            for (String next : calls.get(name)) {
+                List<String> chain = calls.containsKey(next) ? deepest(next, calls, above + 1) : List.of();
+                longest = chain.size() > longest.size() ? chain : longest;
+            }
+        }
+        List<String> whole = new ArrayList<>(List.of(name));
+        whole.addAll(longest);
+        return whole;
     }
 
     /** Beside each test of an edge a comment names its promise, and no promise is left out. */

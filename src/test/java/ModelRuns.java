@@ -176,6 +176,27 @@ public final class ModelRuns {
         for (int what = -1; what < 9; what++) {
             due("count(" + what + ")", x.count(what), m.count(what));
         }
+        if (seed % 5 == 0) {
+            planFullShelf();
+        }
+    }
+
+    /** Three parts out of eight: too slow in the model for each seed, so planning() leaves it out. */
+    private void planFullShelf() {
+        for (int i = 0; i < 40 && m.count(5) < 8; i++) {
+            tell(text(true));
+            due("shelf", x.shelf(), m.shelf());
+        }
+        due("clear", x.clear(), m.clear());
+        for (int i = upTo(3); i < 3; i++) {
+            int mode = upTo(2 * span);
+            due("grain(" + mode + ")", x.grain(mode), m.grain(mode));
+        }
+        int[] r = row();
+        due("plan of a full shelf", x.plan(3, r[0], r[1], r[2], r[3], r[4]), m.plan(3, r[0], r[1], r[2], r[3], r[4]));
+        for (int i = -4; i < 4; i++) {
+            due("planned(" + i + ") of a full shelf", x.planned(i), m.planned(i));
+        }
     }
 
     private void call(int dice) {
