@@ -50,6 +50,15 @@ public final class PlanEdges {
         planned(x, 1, 0, 1, 1, 2, 0);
     }
 
+    // Promise 21, Terms: "of all rows of at most n PARTS": the only one of a full shelf's that helps is a late one.
+    static void planOfLateRow() {
+        GrainBench x = shelved("swap 0 4", "swap 4 0", "swap 0 4", "swap 4 0", "swap 0 4", "swap 2 3", "swap 1 2", "swap 0 1");
+        x.grain(0);
+        x.grain(2);
+        Due.due("plan(3, ..)", x.plan(3, 1, 0, 0, 2, 0), 3);
+        planned(x, 1, 0, 1, 7, 6, 5);
+    }
+
     // Promise 21: "NONE for numbers that can't be": n just outside and far away; the latest stays.
     static void planOfTooManyParts() {
         GrainBench x = shelved("swap 0 1");
